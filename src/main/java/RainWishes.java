@@ -1183,13 +1183,13 @@ public final class RainWishes {
                     stack[top - 1] = 1 - stack[top - 1];
                 } else if (top > 1) {
                     top--;
-                    stack[top - 1] = reckon(op, stack[top - 1], stack[top]);
+                    stack[top - 1] = kept(reckon(op, stack[top - 1], stack[top]));
                 }
             }
             return stack[0];
         }
 
-        private static int reckon(int op, int left, int right) {
+        private static long reckon(int op, long left, long right) {
             switch (op) {
                 case Sky.OR:
                     return left | right;
@@ -1202,11 +1202,11 @@ public final class RainWishes {
                 case Sky.MORE:
                     return left > right ? 1 : 0;
                 case Sky.PLUS:
-                    return kept((long) left + right);
+                    return left + right;
                 case Sky.MINUS:
-                    return kept((long) left - right);
+                    return left - right;
                 default:
-                    return kept((long) left * right);
+                    return left * right;
             }
         }
 
