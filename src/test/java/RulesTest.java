@@ -94,6 +94,10 @@ public final class RulesTest {
         due.is("P23 the first form", must.gains(0, 0, 1), 11);
         RainWishes only = Due.under("sky 1 1;clouds 1;wish by 0:all=0;wish by 1 must:all=1;wish by 1 weight 5:all=0;");
         due.is("P23 giving up the must would gain", only.gains(1, 0, 0), 0);
+        RainWishes fewer = Due.under("sky 1 1;wish by 0 must:1=1;wish by 0 weight 5:all=1;wish by 1:all=0;");
+        due.is("P23 nor would person 0 come first without its must", fewer.gains(0, 2, 0), 0);
+        due.is("P23 without a must it would", Due.under("sky 1 1;wish by 0:1=1;wish by 0 weight 5:all=1;"
+                + "wish by 1:all=0;").gains(0, 2, 1), 10);
         RainWishes older = Due.under("sky 1 2;clouds 1;wish by 0:1=1;wish by 0:all=0;wish by 1 must:all<9;wish by 1:all=1;");
         due.is("P23 the one against 1", older.gains(1, 0, 1), 33);
         older.withdraw(3);

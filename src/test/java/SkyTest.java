@@ -93,6 +93,11 @@ public final class SkyTest {
         due.is("P3 zeros ahead", Due.tell(x, "sky 002 01;wish by 000:007=7;"), 2);
         due.is("P3 granted", x.granted(0), 1);
         due.is("P3 only blanks and the sky", Due.tell(x, " \n sky 1 6 ; \n "), 1);
+        String full = "sky 1 1;wish by 0:" + "0+".repeat(430) + "1=1;";
+        for (int k = 0; k < 5; k++) {
+            due.is("P3 as long as can be, over and over", Due.tell(x, full), 2);
+            due.is("P3 its wish holds", x.granted(0), 1);
+        }
     }
 
     private static void spoilt(String text, int kind, int place) {
@@ -123,6 +128,8 @@ public final class SkyTest {
         spoilt("clouds 1;sky 1 1;", 2, 0);
         spoilt("sky 1 1;sky 1 1;", 2, 8);
         spoilt("skys 1 1;", 2, 0);
+        spoilt("sky 1 1;zoo", 2, 8);
+        spoilt("az", 2, 0);
         spoilt("sky 1;", 2, 5);
         spoilt("sky 1 1 1;", 2, 8);
         spoilt("sky 1 1", 2, 7);

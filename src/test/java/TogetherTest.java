@@ -89,6 +89,9 @@ public final class TogetherTest {
                 + "all=1;wish by 0 weight 4:wet 0 1=1 and all=1;");
         due.is("P14 the fewest cells, then the least", y.most(2), 2);
         due.is("P14 its wishes", y.most(1), 4);
+        RainWishes fewer = Due.under("sky 1 3;wish by 0 weight 4:wet 0 0=1 and wet 0 1=1;"
+                + "wish by 0 weight 4:wet 0 2=1 and all=1;");
+        due.is("P14 fewer cells go before the least", fewer.most(2), 4);
         RainWishes z = Due.under(NO_PLAN);
         for (int what = 0; what < 3; what++) {
             due.is("P14 no plan can be: most(" + what + ")", z.most(what), -1);
@@ -211,6 +214,8 @@ public final class TogetherTest {
         due.fails("P20 -1", BAD, () -> x.bestChance(-1));
         RainWishes like = Due.under("sky 1 3;wish by 0:wet 0 2=1;wish by 0:wet 0 1=1 and all=1;");
         due.is("P20 of like ones the fewest cells, then the least", like.bestChance(100), 2);
+        RainWishes fewer = Due.under("sky 1 3;wish by 0:wet 0 0=1 and wet 0 1=1;wish by 0:wet 0 2=1 and all=1;");
+        due.is("P20 fewer cells go before the least", fewer.bestChance(100), 4);
         due.is("P20 no plan can be", Due.under(NO_PLAN).bestChance(50), -1);
         due.is("P20 none with three cells can be",
                 Due.under("sky 1 4;clouds 4;wish by 0 must:all=4;").bestChance(50), -1);

@@ -14,6 +14,7 @@ public final class TraysTest {
         pour();
         image();
         imagesStay();
+        imageOfManyDeeds();
         count();
         due.is("the constant", RainWishes.NONE, -1);
         due.end();
@@ -156,6 +157,22 @@ public final class TraysTest {
         due.is("P41 made anew, another is as it was", x.count(6), 2);
         x.restore(1);
         due.is("P41 made anew", x.count(6), 1);
+    }
+
+    /** Deeds that were forgotten before the image was made stay forgotten. */
+    private static void imageOfManyDeeds() {
+        RainWishes x = new RainWishes();
+        for (int k = 1; k <= 13; k++) {
+            x.thank(0, k);
+        }
+        x.image(0);
+        Due.tell(x, "sky 1 1;");
+        x.thank(0, 50);
+        x.restore(0);
+        due.is("P42 deeds", x.undo(3), 7);
+        due.is("P42 the latest three are undone", x.owes(0), -55);
+        due.is("P42 all of them", x.undo(7), 0);
+        due.is("P42 the eldest are forgotten", x.owes(0), -6);
     }
 
     private static void count() {
