@@ -487,6 +487,14 @@ public final class MeantEdgesTest {
         due.is("P26 never", x.readings(0, 2), 0);
         Due.put(x, 0, 0, 1, 1, 0);
         due.is("P26 always", x.readings(0, 3), 16);
+        RainWishes five = Due.under("sky 1 6;clouds 5;");
+        Due.put(five, 0, 0, 1, 0, 3, 0, 5, 0, 7, 0, 11);
+        due.is("P26 five wet cells: by the one plan of these", five.readings(0, 2), 1);
+        due.is("P26 all readings are alike", five.readings(0, 3), 1);
+        Due.put(five, 0, 0, 0, 0, 2, 0, 4, 0, 6, 0, 10);
+        due.is("P26 five dry cells: by no cloud, and by one elsewhere", five.readings(0, 2), 2);
+        Due.put(five, 0, 0, 0, 1, 2, 1, 4, 1, 6, 1, 10);
+        due.is("P26 one of five dry: by all plans but one", five.readings(0, 3), 62);
         RainWishes none = Due.under("sky 1 2;wish by 0 must:1=2;");
         Due.put(none, 0, 0, 1, 1, 0);
         due.is("P26 no plan can be: the kindest", none.readings(0, 2), 0);

@@ -557,6 +557,14 @@ public final class PlanEdgesTest {
         due.is("P20 half: one cloud 1, two 2", part.bestChance(50), 3);
         RainWishes same = Due.under("sky 1 2;wish by 0 weight 2:all=1;");
         due.is("P20 half: one cloud 1, two 1", same.bestChance(50), 1);
+        RainWishes less = Due.under("sky 1 2;wish by 0 weight 2:all=1;wish by 0 weight 1:all=2;");
+        due.is("P19 one cloud", less.expected(1, 67), 134);
+        due.is("P19 two clouds", less.expected(3, 67), 13333);
+        due.is("P20 13333 of 10000 are less than 134 of 100", less.bestChance(67), 1);
+        RainWishes more = Due.under("sky 1 2;wish by 0 weight 4:all=1;wish by 0 weight 1:all=2;");
+        due.is("P19 one cloud", more.expected(1, 57), 228);
+        due.is("P19 two clouds", more.expected(3, 57), 22857);
+        due.is("P20 22857 of 10000 are more than 228 of 100", more.bestChance(57), 3);
         RainWishes late = Due.under("sky 1 3;wish by 0:wet 0 2=1 and all=1;wish by 0:all=2;");
         due.is("P20 all come: one cell before a lesser two", late.bestChance(100), 4);
     }
